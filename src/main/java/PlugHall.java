@@ -65,11 +65,11 @@ public final class PlugHall {
 
     private final Tape tape = new Tape();
     private final Boxes boxes = new Boxes();
-    private final Machine machine = new Machine(boxes);
+    private final Outcome latest = new Outcome();
+    private final Machine machine = new Machine(boxes, latest);
     private final Trials trials = new Trials(boxes, machine);
     private final Plan plan = new Plan();
     private final Shelf shelf = new Shelf();
-    private final Outcome latest = new Outcome();
     private final Sheet wantedSheet = new Sheet();
     private Board plugged = new Board();
     private Board spareBoard = new Board();
@@ -408,25 +408,17 @@ public final class PlugHall {
                 return;
             }
             place = next;
-            if (isLetter(bytes[next])) {
+            if (bytes[next] >= 'a' && bytes[next] <= 'z') {
                 readWord();
-            } else if (isDigit(bytes[next])) {
+            } else if (bytes[next] >= '0' && bytes[next] <= '9') {
                 readNumber();
             } else {
                 readSign();
             }
         }
 
-        private static boolean isLetter(int b) {
-            return b >= 'a' && b <= 'z';
-        }
-
-        private static boolean isDigit(int b) {
-            return b >= '0' && b <= '9';
-        }
-
         private void readWord() {
-            while (next < length && isLetter(bytes[next])) {
+            while (next < length && bytes[next] >= 'a' && bytes[next] <= 'z') {
                 value = value * 32 + bytes[next] - 'a' + 1;
                 next++;
             }
@@ -435,7 +427,7 @@ public final class PlugHall {
         }
 
         private void readNumber() {
-            while (next < length && isDigit(bytes[next])) {
+            while (next < length && bytes[next] >= '0' && bytes[next] <= '9') {
                 value = value * 10 + bytes[next] - '0';
                 next++;
             }
@@ -854,7 +846,7 @@ public final class PlugHall {
         }
 
         boolean hasLikeLine(Sheet other, int line) {
-            if (!hasCell(line, 1) || !other.hasCell(line, 1)) {
+            if (line < 0 || line >= lines || line >= other.lines || line >= LINE_ROOM) {
                 return false;
             }
             for (int i = line * BARS; i < line * BARS + BARS; i++) {
@@ -997,14 +989,10 @@ public final class PlugHall {
             } else if (partOf[b] == NOTHING) {
                 partOf[b] = partOf[a];
             } else {
-                unite(link, 0, partOf[a], partOf[b]);
+                int root = rootOf(link, 0, partOf[a]);
+                int otherRoot = rootOf(link, 0, partOf[b]);
+                link[Math.max(root, otherRoot)] = Math.min(root, otherRoot);
             }
-        }
-
-        private static void unite(int[] links, int start, int part, int other) {
-            int root = rootOf(links, start, part);
-            int otherRoot = rootOf(links, start, other);
-            links[start + Math.max(root, otherRoot)] = Math.min(root, otherRoot);
         }
 
         private static int rootOf(int[] links, int start, int part) {
@@ -1069,7 +1057,9 @@ public final class PlugHall {
                 boolean isPicked = (picked >> point / POINTS & 1) != 0;
                 int other = partOf[(isPicked ? HUB_RT : HUB_RN) + point];
                 if (other != NOTHING) {
-                    unite(rows, start, partOf[HUB_RC + point], other);
+                    int root = rootOf(rows, start, partOf[HUB_RC + point]);
+                    int otherRoot = rootOf(rows, start, other);
+                    rows[start + Math.max(root, otherRoot)] = Math.min(root, otherRoot);
                 }
             }
             // Links lead to lower parts, so that the one a link leads to is straight already.
@@ -1102,13 +1092,14 @@ public final class PlugHall {
         private int picked;
         private int jamFirst;
         private int jamSecond;
-        private Outcome out = new Outcome();
+        private Outcome out;
         private Sheet told;
         private int room;
         private boolean strayed;
 
-        Machine(Boxes boxes) {
+        Machine(Boxes boxes, Outcome out) {
             this.boxes = boxes;
+            this.out = out;
         }
 
         void plug(Board board, int without) {
@@ -1126,28 +1117,20 @@ public final class PlugHall {
             told = toldLines;
             room = punchRoom;
             strayed = false;
-            goThroughCards();
-            return toldLines == null || !strayed && out.sheet.lines == toldLines.lines;
-        }
-
-        private void goThroughCards() {
-            for (int k = 0; k < boxes.deckSize; k++) {
-                if (!cardCycle(k)) {
-                    return;
-                }
+            boolean goesOn = true;
+            for (int k = 0; k < boxes.deckSize && goesOn; k++) {
+                goesOn = cardCycle(k);
                 boolean halts = takes(HUB_HALT);
-                boolean isLast = halts || k + 1 == boxes.deckSize;
-                int orders = isLast ? ORDERS : greatestOrder();
-                for (int n = 1; n <= orders; n++) {
-                    if (!totalCycle(n)) {
-                        return;
-                    }
+                int orders = halts || k + 1 == boxes.deckSize ? ORDERS : greatestOrder();
+                for (int n = 1; n <= orders && goesOn; n++) {
+                    goesOn = totalCycle(n);
                 }
-                if (halts) {
+                if (halts && goesOn) {
                     out.end = END_HALT;
-                    return;
+                    goesOn = false;
                 }
             }
+            return toldLines == null || !strayed && out.sheet.lines == toldLines.lines;
         }
 
         private int greatestOrder() {
@@ -1447,11 +1430,12 @@ public final class PlugHall {
         }
 
         private long wiresShown(Board board) {
-            performWhole(board);
+            machine.plug(board, NOTHING);
+            machine.perform(whole, CARD_ROOM, null);
             long shown = 0;
             for (int w = 0; w < board.wires; w++) {
                 machine.plug(board, w);
-                if (!endsAsWhole()) {
+                if (!machine.perform(trial, CARD_ROOM, whole.sheet) || !trial.endsLike(whole)) {
                     shown |= 1L << w;
                 }
             }
@@ -1512,7 +1496,8 @@ public final class PlugHall {
             for (int hub = first; hub < Board.FIRST_HUB[word + 1]; hub++) {
                 if (hub != was && hub != stays && board.mayHaveMore(hub)) {
                     ends[w] = hub;
-                    if (printsTold(board, NOTHING)) {
+                    machine.plug(board, NOTHING);
+                    if (machine.perform(trial, CARD_ROOM, told)) {
                         addMove(w, end, hub - first);
                     }
                     ends[w] = was;
