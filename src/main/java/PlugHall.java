@@ -364,7 +364,7 @@ public final class PlugHall {
 
         void add(int number) {
             for (int shift = 24; shift >= 0 && length < ROOM; shift -= 8) {
-                bytes[length] = number >>> shift & 255;
+                bytes[length] = (number >>> shift) & 255;
                 length++;
             }
         }
@@ -589,7 +589,7 @@ public final class PlugHall {
 
         /** Blank is 15: one more, of four bits, puts it ahead of 0. */
         private int rankOf(int cell, int n) {
-            return digitOf(cell, n) + 1 & BLANK;
+            return (digitOf(cell, n) + 1) & BLANK;
         }
 
         void sortBox(int box, int n) {
@@ -1214,8 +1214,9 @@ public final class PlugHall {
                 nets.want(0);
                 stamp++;
                 for (int i = first; i < end; i++) {
-                    if (gives[i] != NOTHING) {
-                        netStamp[nets.netOf(0, nets.givers[i])] = stamp;
+                    int net = gives[i] == NOTHING ? NOTHING : nets.netOf(0, nets.givers[i]);
+                    if (net != NOTHING) {
+                        netStamp[net] = stamp;
                     }
                 }
                 for (int r = 0; r < RELAYS; r++) {
@@ -1234,17 +1235,15 @@ public final class PlugHall {
         /** Givers come by rising numbers, so that the first two of a NET are its least. */
         private void giveAll(int first, int end) {
             for (int i = first; i < end; i++) {
-                if (gives[i] != NOTHING) {
-                    int hub = nets.givers[i];
-                    int net = nets.netOf(picked, hub);
-                    if (netStamp[net] != stamp) {
-                        netStamp[net] = stamp;
-                        netGiver[net] = hub;
-                        netDigit[net] = gives[i];
-                    } else if (netGiver[net] < jamFirst) {
-                        jamFirst = netGiver[net];
-                        jamSecond = hub;
-                    }
+                int hub = nets.givers[i];
+                int net = gives[i] == NOTHING ? NOTHING : nets.netOf(picked, hub);
+                if (net != NOTHING && netStamp[net] != stamp) {
+                    netStamp[net] = stamp;
+                    netGiver[net] = hub;
+                    netDigit[net] = gives[i];
+                } else if (net != NOTHING && netGiver[net] < jamFirst) {
+                    jamFirst = netGiver[net];
+                    jamSecond = hub;
                 }
             }
         }
@@ -1736,7 +1735,7 @@ public final class PlugHall {
             int leastWant = set & -set;
             int best = 0;
             int fewestLeft = NO_WAY;
-            for (int one = set; one > 0; one = one - 1 & set) {
+            for (int one = set; one > 0; one = (one - 1) & set) {
                 boolean may = (one & leastWant) != 0 && fits[one];
                 if (may && fewest[set & ~one] <= fewestLeft) {
                     fewestLeft = fewest[set & ~one];
@@ -1921,7 +1920,8 @@ public final class PlugHall {
         static final int MOST_TOLD = 6;
         static final int BYTES_EACH = 5;
         static final int MINUTES_A_WIRE = 2;
-        static final int NEVER = Integer.MAX_VALUE;
+        static final int MOST_ORDERS = 720;
+        static final int NEVER = 1000000000;
 
         final Board[] boards = new Board[PLACES];
         private int placesKept;
@@ -1932,7 +1932,6 @@ public final class PlugHall {
         // What it costs to set one behind another; the row behind the last is that of the empty BOARD.
         private final int[] costs = new int[(MOST_TOLD + 1) * MOST_TOLD];
         private final int[] tried = new int[MOST_TOLD];
-        private int bestEnd;
         final int[] bestOrder = new int[MOST_TOLD];
         int bestTold;
 
@@ -1979,7 +1978,28 @@ public final class PlugHall {
             return true;
         }
 
+        /** The minute at which all told have ended in the best order; NONE, if none does. */
         int planFriday() {
+            priceSettings();
+            for (int i = 0; i < told; i++) {
+                tried[i] = i;
+            }
+            int best = NEVER;
+            boolean more = true;
+            // Orders come as told: one that ends no sooner than an order ahead of it is no better.
+            for (int n = 0; n < MOST_ORDERS && more; n++) {
+                int end = endOfTried();
+                if (end < best) {
+                    best = end;
+                    bestTold = told;
+                    System.arraycopy(tried, 0, bestOrder, 0, told);
+                }
+                more = goToNextOrder();
+            }
+            return best == NEVER ? NONE : best;
+        }
+
+        private void priceSettings() {
             for (int i = 0; i < told; i++) {
                 costs[MOST_TOLD * MOST_TOLD + i] = boards[place[i]].wires * MINUTES_A_WIRE;
                 for (int j = 0; j < i; j++) {
@@ -1988,30 +2008,48 @@ public final class PlugHall {
                     costs[j * MOST_TOLD + i] = cost;
                 }
             }
-            bestEnd = NEVER;
-            tryOrders(0, 0, 0);
-            return bestEnd == NEVER ? NONE : bestEnd;
         }
 
-        /** Tries all orders behind those set already, the ones told first first: so a like one later is no better. */
-        private void tryOrders(int depth, int minute, int set) {
-            if (minute >= bestEnd) {
-                return;
-            }
-            if (depth >= told || depth >= MOST_TOLD) {
-                bestEnd = minute;
-                bestTold = told;
-                System.arraycopy(tried, 0, bestOrder, 0, MOST_TOLD);
-                return;
-            }
-            int row = depth == 0 ? MOST_TOLD : tried[depth - 1];
-            for (int i = 0; i < told; i++) {
-                int end = minute + costs[row * MOST_TOLD + i] + minutes[i];
-                if ((set >> i & 1) == 0 && end <= latestEnd[i]) {
-                    tried[depth] = i;
-                    tryOrders(depth + 1, end, set | 1 << i);
+        private int endOfTried() {
+            int minute = 0;
+            int row = MOST_TOLD;
+            for (int k = 0; k < told; k++) {
+                int i = tried[k];
+                minute += costs[row * MOST_TOLD + i] + minutes[i];
+                if (minute > latestEnd[i]) {
+                    return NEVER;
                 }
+                row = i;
             }
+            return minute;
+        }
+
+        /** The next order, one by one the one told first; false behind the last. */
+        private boolean goToNextOrder() {
+            int rising = told - 2;
+            while (rising >= 0 && tried[rising] > tried[rising + 1]) {
+                rising--;
+            }
+            if (rising < 0) {
+                return false;
+            }
+            int greater = told - 1;
+            while (greater > rising && tried[greater] < tried[rising]) {
+                greater--;
+            }
+            swapTried(rising, greater);
+            int low = rising + 1;
+            for (int high = told - 1; high > low; high--) {
+                swapTried(low, high);
+                low++;
+            }
+            return true;
+        }
+
+        private void swapTried(int a, int b) {
+            int was = tried[a];
+            tried[a] = tried[b];
+            tried[b] = was;
         }
     }
 }

@@ -271,6 +271,8 @@ public final class PromiseTest {
             due("card with " + bad, hall.card(0), -1);
             due("the tape is empty", hall.count(2), 0);
         }
+        tape(columns(":", 20));
+        due("the first byte", hall.card(0), -1);
         tape(columns("", 19));
         due("19 bytes", hall.card(0), -1);
         tape(columns("", 21));
@@ -394,6 +396,10 @@ public final class PromiseTest {
         fault("e-p1;c1-p1;", 3, 8);
         fault("e-p1;p1-c1;", 3, 5);
         fault("e-m;c1-m;", 3, 7);
+        fault("e-i1.1;c1-i1.1;", 3, 10);
+        fault("e-halt;c1-halt;", 3, 10);
+        due("z4 has more than one", board("z4-p1;z4-p2;"), 2);
+        due("rc1.1 has more than one", board("rc1.1-p1;rc1.1-p2;"), 2);
         fault("e-p1;p1", 3, 5);
         fault("e-p1;p1-foo;", 3, 5);
         due("eight wires", board("e-p1;e-p2;e-p3;e-p4;e-p5;e-p6;e-p7;e-p8;"), 8);
@@ -506,6 +512,11 @@ public final class PromiseTest {
         due("a relay picked in a total cycle", runOf("t2-s4;o1.1-rc4.1;rt4.1-p1;e-i1.1;e-plus1;"), 0);
         dueLines("2");
         due("through two relays", runOf("x3-s1;x3-s2;c1-rc1.1;rt1.1-rc2.1;rt2.1-p1;rn2.1-p2;"), 0);
+        dueLines("1");
+        due("nets that a later wire joins", runOf("c1-rc1.1;rc2.1-p1;rc3.1-p2;rc4.1-p3;rc4.1-rc3.1;rc2.1-rc3.1;"
+            .concat("rc1.1-rc4.1;")), 0);
+        dueLines("111", "333");
+        due("nets that relays join", runOf("rc1.1-p1;rn2.1-rt1.1;x3-s1;rc2.1-rt3.1;c1-rc3.1;c2-s3;"), 0);
         dueLines("1");
         cards(0, "11", "12", "1", ".1", "..");
         due("a comparer", runOf("c1-ka1;c2-kb1;u1-p1;"), 0);
@@ -828,6 +839,10 @@ public final class PromiseTest {
         due("one card shows all", hall.tests(2), 1);
         due("testSet", hall.testSet(), 4);
         due("shown", hall.shown(), 3);
+        board("x1-q1;c1-ka1;");
+        due("nothing is shown", hall.tests(1), 0);
+        due("testSet", hall.testSet(), 0);
+        due("shown", hall.shown(), 0);
         board("a1-p1;c1-ka1;a1-kb1;u1-p2;");
         due("each card alone", hall.tests(1), 1);
         due("testSet", hall.testSet(), 1);
@@ -1343,6 +1358,11 @@ public final class PromiseTest {
         board("e-p2;c1-p1;");
         hall.keep(2);
         due("no wire in common", hall.apart(0, 2), 4);
+        board("p1-e;c1-e;rc1.1-c1;");
+        hall.keep(4);
+        board("e-rc1.1;c1-rc1.1;e-p2;");
+        hall.keep(5);
+        due("HUBS in common", hall.apart(4, 5), 4);
         promise = 34;
         hall.use(0);
         hall.keep(3);
