@@ -714,24 +714,27 @@ public final class PlugHall {
             return word;
         }
 
-        /** Whether a WIRE of this BOARD joins the same two HUBS. */
-        boolean hasWire(int first, int second) {
+        /** Like WIRES are WIRES each: one of the other BOARD is the fellow of one here alone. */
+        int wiresApart(Board other) {
+            long fellows = 0;
             for (int w = 0; w < wires; w++) {
-                if (from[w] == first && to[w] == second || from[w] == second && to[w] == first) {
-                    return true;
+                int fellow = other.findWire(from[w], to[w], fellows);
+                if (fellow != NOTHING) {
+                    fellows |= 1L << fellow;
                 }
             }
-            return false;
+            return wires + other.wires - 2 * Long.bitCount(fellows);
         }
 
-        int wiresNotIn(Board other) {
-            int alone = 0;
+        /** The first WIRE between two HUBS, whichever is told first, that is not among those left out (as bits). */
+        private int findWire(int first, int second, long leftOut) {
             for (int w = 0; w < wires; w++) {
-                if (!other.hasWire(from[w], to[w])) {
-                    alone++;
+                boolean isLike = from[w] == first && to[w] == second || from[w] == second && to[w] == first;
+                if (isLike && (leftOut >> w & 1) == 0) {
+                    return w;
                 }
             }
-            return alone;
+            return NOTHING;
         }
 
         boolean readText(Tape tape) {
@@ -1955,7 +1958,7 @@ public final class PlugHall {
         }
 
         int wiresApart(int a, int b) {
-            return boards[a].wiresNotIn(boards[b]) + boards[b].wiresNotIn(boards[a]);
+            return boards[a].wiresApart(boards[b]);
         }
 
         boolean readFriday(Tape tape) {

@@ -10,6 +10,7 @@ import java.util.NoSuchElementException;
 import java.util.Random;
 import java.util.Set;
 import java.util.TreeMap;
+import java.util.TreeSet;
 
 /** Random runs of calls, each answer held against a slow model that is written from the document alone. */
 public final class ModelTest {
@@ -1085,11 +1086,13 @@ public final class ModelTest {
         }
 
         static int apart(List<String[]> a, List<String[]> b) {
-            List<String> x = plain(a);
-            List<String> y = plain(b);
-            x.removeAll(plain(b));
-            y.removeAll(plain(a));
-            return x.size() + y.size();
+            List<String> all = plain(a);
+            all.addAll(plain(b));
+            int apart = 0;
+            for (String wire : new TreeSet<>(all)) {
+                apart += Math.abs(Collections.frequency(plain(a), wire) - Collections.frequency(plain(b), wire));
+            }
+            return apart;
         }
 
         int apart(int a, int b) {
@@ -1284,6 +1287,21 @@ public final class ModelTest {
             return wires;
         }
 
+        /** The WIRES of a BOARD kept, some told again or not at all, some the other way round. */
+        List<String[]> kinWires() {
+            List<String[]> kin = new ArrayList<>();
+            List<String[]> kept = model.shelf.get(below(8));
+            for (String[] w : kept == null ? model.board : kept) {
+                for (int i = oneIn(4) ? below(4) : 1; i > 0; i--) {
+                    if (kin.size() < 60 && Model.uses(kin, w[0]) < mostWires(w[0]) && Model.uses(kin, w[1]) < mostWires(w[1])) {
+                        kin.add(oneIn(3) ? new String[] {w[1], w[0]} : w);
+                    }
+                }
+            }
+            Collections.shuffle(kin, random);
+            return kin;
+        }
+
         String blank() {
             return oneIn(12) ? oneIn(2) ? " " : "\n" : "";
         }
@@ -1321,7 +1339,7 @@ public final class ModelTest {
 
         void board() {
             StringBuilder b = new StringBuilder();
-            for (String[] w : someWires()) {
+            for (String[] w : oneIn(4) ? kinWires() : someWires()) {
                 b.append(w[0]).append('-').append(w[1]).append(';');
             }
             String text = spread(b.toString());
@@ -1609,6 +1627,10 @@ public final class ModelTest {
             int k = place(8);
             int a = place(8);
             due("keep(" + k + ")", hall.keep(k) ? 1 : 0, model.keep(k));
+            if (oneIn(2)) {
+                board();
+                due("keep(" + a + ")", hall.keep(a) ? 1 : 0, model.keep(a));
+            }
             due("apart(" + k + ", " + a + ")", hall.apart(k, a), model.apart(k, a));
             due("apart(" + a + ", " + k + ")", hall.apart(a, k), model.apart(a, k));
             if (oneIn(4)) {

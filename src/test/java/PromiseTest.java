@@ -185,7 +185,9 @@ public final class PromiseTest {
         unseen();
         moves();
         shelf();
+        apartLikeWires();
         friday();
+        fridayLikeWires();
         count();
         System.out.println(wrong == 0 ? calls + " answers, all as due" : wrong + " answers are not as due");
         if (wrong != 0) {
@@ -1369,6 +1371,104 @@ public final class PromiseTest {
         job("count 1 1;");
         hall.make(0);
         due("a board made is no matter to the shelf", hall.apart(0, 3), 0);
+    }
+
+    private static void keptAt(int place, String text, int wires) {
+        due("board " + text, board(text), wires);
+        due("keep(" + place + ")", hall.keep(place) ? 1 : 0, 1);
+    }
+
+    private static void dueApart(String what, int a, int b, int want) {
+        due(what + ": apart(" + a + ", " + b + ")", hall.apart(a, b), want);
+        due(what + ": apart(" + b + ", " + a + ")", hall.apart(b, a), want);
+    }
+
+    private static void apartLikeWires() {
+        fresh(36);
+        keptAt(0, "c1-rc1.1;c1-rc1.1;", 2);
+        keptAt(1, "c1-rc1.1;", 1);
+        keptAt(2, "c1-rc1.1;e-p1;c1-rc1.1;", 3);
+        keptAt(3, "c1-rc1.1;c1-rc1.1;c1-rc1.1;", 3);
+        keptAt(4, "rc1.1-c1;c1-rc1.1;", 2);
+        keptAt(5, "rc1.1-c1;", 1);
+        keptAt(6, "rc1.1-c1;rc1.1-c1;rc1.1-c1;", 3);
+        keptAt(7, "", 0);
+        dueApart("twice on one", 0, 1, 1);
+        dueApart("twice on both", 0, 2, 1);
+        dueApart("three times against once", 3, 1, 2);
+        dueApart("three times against twice", 3, 0, 1);
+        dueApart("twice, once with the ends turned", 0, 4, 0);
+        dueApart("twice, once with the ends turned, against once", 4, 1, 1);
+        dueApart("twice against once with the ends turned", 0, 5, 1);
+        dueApart("three times against once with the ends turned", 3, 5, 2);
+        dueApart("three times on both, all ends turned", 3, 6, 0);
+        dueApart("three times turned against twice mixed", 6, 4, 1);
+        dueApart("against none", 6, 7, 3);
+        for (int k = 0; k < 8; k++) {
+            due("a BOARD and itself", hall.apart(k, k), 0);
+        }
+        keptAt(7, "c1-rc1.2;c1-rc1.2;", 2);
+        dueApart("like WIRES between other HUBS", 0, 7, 4);
+        keptAt(7, "c1-rc1.2;rc1.1-c1;rc1.2-c1;", 3);
+        dueApart("one of each two", 0, 7, 3);
+        keptAt(6, times("c1-a1;", 8), 8);
+        keptAt(7, times("a1-c1;", 5), 5);
+        dueApart("eight against five", 6, 7, 3);
+        mostWiresApart();
+    }
+
+    /** Sixty WIRES on each of two BOARDS, so that the last WIRE of each has a fellow. */
+    private static void mostWiresApart() {
+        StringBuilder there = new StringBuilder();
+        StringBuilder back = new StringBuilder();
+        for (int i = 0; i < 8; i++) {
+            there.append(times("c" + (i + 1) + "-a" + (i + 1) + ";", i < 4 ? 8 : 7));
+            back.insert(0, times("a" + (i + 1) + "-c" + (i + 1) + ";", i < 4 ? 7 : 8));
+        }
+        keptAt(0, there.toString(), 60);
+        keptAt(1, back.toString(), 60);
+        dueApart("sixty WIRES each", 0, 1, 8);
+        dueApart("sixty WIRES against two others", 0, 2, 63);
+    }
+
+    private static void dueFriday(String what, int want, int... order) {
+        due(what, hall.friday(), want);
+        for (int k = 0; k < order.length; k++) {
+            due(what + ": fridayAt(" + k + ")", hall.fridayAt(k), order[k]);
+        }
+        due(what + ": behind the last", hall.fridayAt(order.length), -1);
+    }
+
+    private static void fridayLikeWires() {
+        fresh(37);
+        keptAt(0, "c1-rc1.1;c1-rc1.1;", 2);
+        keptAt(1, "c1-rc1.1;", 1);
+        keptAt(2, "rc1.1-c1;c1-rc1.1;", 2);
+        keptAt(3, "rc1.1-c1;rc1.1-c1;rc1.1-c1;", 3);
+        keptAt(4, "", 0);
+        tape(0, 0, 0, 0, 4);
+        dueFriday("two WIRES from the empty BOARD", 4, 0);
+        tape(0, 0, 0, 0, 3);
+        due("a minute late", hall.friday(), -1);
+        tape(0, 0, 0, 0, 4, 1, 0, 0, 0, 4);
+        dueFriday("the one WIRE first", 4, 1, 0);
+        tape(1, 0, 1, 0, 3, 0, 0, 1, 0, 6);
+        dueFriday("the second WIRE is still to be set", 6, 0, 1);
+        tape(1, 0, 1, 0, 3, 0, 0, 1, 0, 5);
+        due("no time for the second WIRE", hall.friday(), -1);
+        due("fridayAt stays", hall.fridayAt(1), 1);
+        tape(0, 0, 1, 0, 5, 1, 0, 1, 0, 8);
+        dueFriday("the second WIRE is still to be pulled", 8, 0, 1);
+        tape(0, 0, 1, 0, 99, 2, 0, 1, 0, 99);
+        dueFriday("twice on both", 6, 0, 1);
+        tape(3, 0, 0, 0, 99, 1, 0, 0, 0, 99);
+        dueFriday("three times behind once, ends turned", 6, 1, 0);
+        tape(3, 0, 0, 0, 6, 1, 0, 0, 1, 0, 0, 0, 0, 1, 0);
+        dueFriday("by rising counts", 6, 1, 2, 0);
+        tape(3, 0, 1, 0, 7, 1, 0, 1, 1, 0, 0, 0, 1, 1, 0);
+        dueFriday("three times must come first", 13, 0, 2, 1);
+        tape(2, 0, 0, 1, 0, 4, 0, 0, 1, 0, 1, 0, 0, 1, 0);
+        dueFriday("the empty one, then by rising counts", 4, 1, 2, 0);
     }
 
     private static void friday() {
