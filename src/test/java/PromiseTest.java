@@ -1,168 +1,8 @@
-import java.util.NoSuchElementException;
-
 /** The promises one by one: ordinary inputs, the edges that the document names, and wrong inputs. */
-public final class PromiseTest {
-    private static int wrong = 0;
-    private static int calls = 0;
-    private static int promise = 0;
-    private static PlugHall hall;
-
-    private static void due(String what, long got, long want) {
-        calls++;
-        if (got != want) {
-            wrong++;
-            System.out.println("promise " + promise + ": " + what + " answered " + got + ", due is " + want);
-        }
-    }
-
-    private interface Call {
-        int answer();
-    }
-
-    private static void dueThrow(String what, Call call) {
-        calls++;
-        try {
-            int got = call.answer();
-            wrong++;
-            System.out.println("promise " + promise + ": " + what + " answered " + got + ", due is an exception");
-        } catch (NoSuchElementException e) {
-            // as due
-        }
-    }
-
-    private static void fresh(int number) {
-        promise = number;
-        hall = new PlugHall();
-    }
-
-    private static void tape(int... bytes) {
-        for (int i = 0; i < bytes.length || i == 0; i += 20) {
-            int[] n = new int[5];
-            for (int j = 0; j < 20 && i + j < bytes.length; j++) {
-                n[j / 4] |= (bytes[i + j] & 255) << 24 - 8 * (j % 4);
-            }
-            hall.feed(n[0], n[1], n[2], n[3], n[4]);
-        }
-        if (!hall.end(bytes.length)) {
-            throw new IllegalStateException("end");
-        }
-    }
-
-    private static void text(String s) {
-        int[] b = new int[s.length()];
-        for (int i = 0; i < b.length; i++) {
-            b[i] = s.charAt(i);
-        }
-        tape(b);
-    }
-
-    private static int board(String s) {
-        text(s);
-        return hall.board();
-    }
-
-    private static void fault(String s, int kind, int place) {
-        due("board " + s, board(s), -1 - place);
-        due("fault " + s, hall.fault(), kind);
-    }
-
-    private static int job(String s) {
-        text(s);
-        return hall.job();
-    }
-
-    private static void jobFault(String s, int kind, int place) {
-        due("job " + s, job(s), -1 - place);
-        due("fault " + s, hall.fault(), kind);
-    }
-
-    /** A sign a COLUMN: a digit, '.' blank, A to J a digit PUNCHED OVER, '_' blank PUNCHED OVER; the rest is blank. */
-    private static int[] columns(String s, int length) {
-        int[] b = new int[length];
-        for (int i = 0; i < length; i++) {
-            char c = i < s.length() ? s.charAt(i) : '.';
-            b[i] = c == '.' ? 15 : c == '_' ? 31 : c >= 'A' ? c - 'A' + 16 : c - '0';
-        }
-        return b;
-    }
-
-    private static int card(int box, String s) {
-        tape(columns(s, 20));
-        return hall.card(box);
-    }
-
-    private static void cards(int box, String... all) {
-        hall.empty(box);
-        for (String s : all) {
-            card(box, s);
-        }
-    }
-
-    private static void lines(String... all) {
-        int[] b = new int[12 * all.length];
-        for (int i = 0; i < all.length; i++) {
-            System.arraycopy(columns(all[i], 12), 0, b, 12 * i, 12);
-        }
-        tape(b);
-    }
-
-    private static void dueLine(int line, String s) {
-        int[] b = columns(s, 12);
-        for (int n = 1; n <= 12; n++) {
-            due("bar(" + line + ", " + n + ")", hall.bar(line, n), b[n - 1]);
-        }
-    }
-
-    private static void dueLines(String... all) {
-        due("lines", hall.ran(2), all.length);
-        for (int i = 0; i < all.length && i < hall.ran(2); i++) {
-            dueLine(i, all[i]);
-        }
-    }
-
-    private static void dueWanted(int line, String s) {
-        int[] b = columns(s, 12);
-        for (int n = 1; n <= 12; n++) {
-            due("wantedAt(" + line + ", " + n + ")", hall.wantedAt(line, n), b[n - 1]);
-        }
-    }
-
-    private static void dueWheels(int a, int b, int c, int d) {
-        due("wheel(1)", hall.wheel(1), a);
-        due("wheel(2)", hall.wheel(2), b);
-        due("wheel(3)", hall.wheel(3), c);
-        due("wheel(4)", hall.wheel(4), d);
-    }
-
-    /** A RUN of box 0 by a new BOARD, into box 7. */
-    private static int runOf(String text) {
-        int wires = board(text);
-        if (wires < 0) {
-            due("board " + text, wires, 0);
-        }
-        return hall.run(0, 7);
-    }
-
-    private static String times(String s, int n) {
-        StringBuilder b = new StringBuilder();
-        for (int i = 0; i < n; i++) {
-            b.append(s);
-        }
-        return b.toString();
-    }
-
-    /** n WIRES that no HUB has too many of, seven bytes each. */
-    private static String wires(int n) {
-        StringBuilder b = new StringBuilder();
-        for (int i = 0; i < n; i++) {
-            b.append('c').append((char) ('1' + i / 8)).append("-a").append((char) ('1' + i % 8)).append(" ;");
-        }
-        return b.toString();
-    }
-
+public final class PromiseTest extends Desk {
     public static void main(String[] args) {
         newObject();
-        tape();
+        feedAndEnd();
         cardsAndBoxes();
         boardTokens();
         boardNumbersAndHubs();
@@ -189,10 +29,7 @@ public final class PromiseTest {
         friday();
         fridayLikeWires();
         count();
-        System.out.println(wrong == 0 ? calls + " answers, all as due" : wrong + " answers are not as due");
-        if (wrong != 0) {
-            System.exit(1);
-        }
+        tell();
     }
 
     private static void newObject() {
@@ -226,7 +63,7 @@ public final class PromiseTest {
         due("fridayAt", hall.fridayAt(0), -1);
     }
 
-    private static void tape() {
+    private static void feedAndEnd() {
         fresh(2);
         for (int i = 1; i <= 37; i++) {
             due("feed", hall.feed(0, 0, 0, 0, 0), 20 * i);
@@ -247,15 +84,15 @@ public final class PromiseTest {
         hall.feed(0, 0, 0, 0, 0x80000000);
         due("a high byte is no digit", hall.card(0), -1);
         fresh(3);
-        due("end(1) of an empty tape", hall.end(1) ? 1 : 0, 0);
-        due("end(0) of an empty tape", hall.end(0) ? 1 : 0, 1);
+        due("end(1) of an empty tape", hall.end(1), false);
+        due("end(0) of an empty tape", hall.end(0), true);
         hall.feed(0, 0, 0, 0, 0);
-        due("end(-1)", hall.end(-1) ? 1 : 0, 0);
-        due("end(21)", hall.end(21) ? 1 : 0, 0);
-        due("end(20)", hall.end(20) ? 1 : 0, 1);
-        due("end(7)", hall.end(7) ? 1 : 0, 1);
+        due("end(-1)", hall.end(-1), false);
+        due("end(21)", hall.end(21), false);
+        due("end(20)", hall.end(20), true);
+        due("end(7)", hall.end(7), true);
         due("count(2)", hall.count(2), 7);
-        due("end(8)", hall.end(8) ? 1 : 0, 0);
+        due("end(8)", hall.end(8), false);
         due("feed", hall.feed(0, 0, 0, 0, 0), 27);
     }
 
@@ -284,12 +121,12 @@ public final class PromiseTest {
             due("card", card(0, "1"), k);
         }
         due("a 41st card", card(0, "1"), -1);
-        promise = 5;
+        goOn(5);
         due("cards(0)", hall.cards(0), 40);
         due("cards(1)", hall.cards(1), 0);
         due("cards(-1)", hall.cards(-1), -1);
         due("cards(8)", hall.cards(8), -1);
-        promise = 6;
+        goOn(6);
         due("column", hall.column(0, 0, 10), 9);
         due("column", hall.column(0, 0, 11), 15);
         due("column", hall.column(0, 0, 12), 16);
@@ -302,7 +139,7 @@ public final class PromiseTest {
         dueThrow("n 0", () -> hall.column(0, 0, 0));
         dueThrow("n 21", () -> hall.column(0, 0, 21));
         dueThrow("of an empty box", () -> hall.column(1, 0, 1));
-        promise = 7;
+        goOn(7);
         tape(1, 2, 3);
         due("empty(-1)", hall.empty(-1), -1);
         due("empty(8)", hall.empty(8), -1);
@@ -323,7 +160,7 @@ public final class PromiseTest {
         due("no blanks", board("c1-p2;o1.1-p3;"), 2);
         due("leading zeros", board("c01-p02;"), 1);
         due("count(0)", hall.count(0), 1);
-        promise = 9;
+        goOn(9);
         due("fault", hall.fault(), 0);
         fault("c1", 1, 2);
         fault("c1  \n", 1, 5);
@@ -390,7 +227,7 @@ public final class PromiseTest {
             fault(w + "4." + (behind[i] + 1) + "-e;", 2, l + 2);
         }
         due("m and halt", board("e-m;e-halt;"), 2);
-        promise = 9;
+        goOn(9);
         fault("e-e;", 3, 2);
         fault("o1.2 - o1.2;", 3, 7);
         fault("p1-p1;", 3, 3);
@@ -459,7 +296,7 @@ public final class PromiseTest {
         due("one box", hall.run(3, 3), -1);
         due("ran stays", hall.ran(0), -1);
         due("no cards", hall.run(0, 1), 0);
-        promise = 11;
+        goOn(11);
         for (int what = 0; what <= 4; what++) {
             due("ran(" + what + ")", hall.ran(what), 0);
         }
@@ -467,7 +304,7 @@ public final class PromiseTest {
         due("ran(6)", hall.ran(6), -1);
         due("ran(-1)", hall.ran(-1), -1);
         due("ran(7)", hall.ran(7), -1);
-        promise = 10;
+        goOn(10);
         cards(0, "12345", "6.C");
         due("END", runOf("c1-p1;c2-p12;x3-p3;a1-p2;e-p4;"), 0);
         dueLines("16.1.......2", "6.11");
@@ -475,12 +312,12 @@ public final class PromiseTest {
         due("total cycles", hall.ran(1), 3);
         due("a NONE changes nothing", hall.run(9, 1), -1);
         due("card cycles", hall.ran(0), 2);
-        promise = 12;
+        goOn(12);
         dueThrow("bar(-1, 1)", () -> hall.bar(-1, 1));
         dueThrow("bar(2, 1)", () -> hall.bar(2, 1));
         dueThrow("bar(0, 0)", () -> hall.bar(0, 0));
         dueThrow("bar(0, 13)", () -> hall.bar(0, 13));
-        promise = 10;
+        goOn(10);
         due("a line only where a bar takes", runOf("c2-p1;"), 0);
         dueLines("2");
         due("wires either way round", runOf("p1-c1;"), 0);
@@ -610,7 +447,7 @@ public final class PromiseTest {
         dueWheels(2, 0, 0, 0);
         dueThrow("wheel(0)", () -> hall.wheel(0));
         dueThrow("wheel(5)", () -> hall.wheel(5));
-        promise = 11;
+        goOn(11);
         cards(0, "9", "9", "1");
         due("runs over", runOf("c1-i1.6;e-plus1;c1-i2.6;e-minus2;"), 0);
         dueWheels(900000, -900000, 0, 0);
@@ -703,18 +540,18 @@ public final class PromiseTest {
     private static void passes() {
         fresh(14);
         cards(0, "31", "12", "J3", ".4", "_5", "16", "D7", "08", "A9");
-        due("pass", hall.pass(0, 1) ? 1 : 0, 1);
+        due("pass", hall.pass(0, 1), true);
         int[] due = {4, 5, 8, 9, 2, 6, 1, 7, 3};
         for (int k = 0; k < 9; k++) {
             due("column(0, " + k + ", 2)", hall.column(0, k, 2), due[k]);
         }
         due("over stays", hall.column(0, 1, 1), 31);
-        due("no box", hall.pass(-1, 1) ? 1 : 0, 0);
-        due("no box", hall.pass(8, 1) ? 1 : 0, 0);
-        due("no column", hall.pass(0, 0) ? 1 : 0, 0);
-        due("no column", hall.pass(0, 21) ? 1 : 0, 0);
-        due("no cards", hall.pass(1, 20) ? 1 : 0, 1);
-        due("all blank", hall.pass(0, 20) ? 1 : 0, 1);
+        due("no box", hall.pass(-1, 1), false);
+        due("no box", hall.pass(8, 1), false);
+        due("no column", hall.pass(0, 0), false);
+        due("no column", hall.pass(0, 21), false);
+        due("no cards", hall.pass(1, 20), true);
+        due("all blank", hall.pass(0, 20), true);
         due("as they were", hall.column(0, 8, 2), 3);
         hall.empty(0);
         card(0, "9");
@@ -730,13 +567,13 @@ public final class PromiseTest {
         due("no wires", hall.idle(0), 0);
         board("c1-p1;x1-p2;e-plus1;c2-i1.1;e-plus2;e-m;c3-q1;c4-q2;e-ka1;");
         due("no cards", hall.idle(0), 9);
-        promise = 17;
+        goOn(17);
         for (int k = 0; k < 9; k++) {
             due("wire(" + k + ")", hall.wire(k), k);
         }
         due("wire(9)", hall.wire(9), -1);
         due("wire(-1)", hall.wire(-1), -1);
-        promise = 15;
+        goOn(15);
         cards(0, "123");
         hall.run(0, 7);
         due("idle", hall.idle(0), 4);
@@ -826,9 +663,9 @@ public final class PromiseTest {
         due("shown", hall.shown(), 0);
         cards(0, "1", ".1", "..1", "1.1", "11");
         due("tests", hall.tests(0), 2);
-        promise = 19;
+        goOn(19);
         due("testSet", hall.testSet(), 2 + 8);
-        promise = 20;
+        goOn(20);
         due("shown", hall.shown(), 3);
         due("a NONE changes nothing", hall.tests(8), -1);
         due("testSet", hall.testSet(), 2 + 8);
@@ -936,14 +773,14 @@ public final class PromiseTest {
         due("runs", hall.runs(), 1);
         job(times("count 3 1;", 4));
         due("four wants, 12 digits", hall.runs(), 1);
-        promise = 23;
+        goOn(23);
         due("wants(0)", hall.wants(0), 15);
         due("wants(1)", hall.wants(1), -1);
         due("wants(-1)", hall.wants(-1), -1);
-        promise = 22;
+        goOn(22);
         job(times("count 1 1;", 5));
         due("five wants", hall.runs(), 2);
-        promise = 23;
+        goOn(23);
         due("wants(0)", hall.wants(0), 1);
         due("wants(1)", hall.wants(1), 30);
         job(times("count 1 1;", 8));
@@ -1035,7 +872,7 @@ public final class PromiseTest {
         due("same", hall.same(0, 0), 1);
         due("a NONE leaves the board", hall.make(7), -1);
         due("count(0)", hall.count(0), 36);
-        promise = 27;
+        goOn(27);
         board("e-p1;");
         due("same by another board", hall.same(0, 0), 0);
         due("no box", hall.same(8, 0), -1);
@@ -1066,7 +903,7 @@ public final class PromiseTest {
         dueThrow("wantedAt", () -> hall.wantedAt(0, 1));
         // behind the cards: 0, 1, 2, 0, 3
         due("wanted", hall.wanted(0, 0), 1 + 2 + 3);
-        promise = 26;
+        goOn(26);
         dueWanted(0, "134");
         dueWanted(1, "999");
         dueWanted(2, "...87");
@@ -1085,7 +922,7 @@ public final class PromiseTest {
         dueWanted(5, ".....05");
         due("another job", job("count 1 1;"), 1);
         dueWanted(5, ".....05");
-        promise = 25;
+        goOn(25);
         due("no cards", hall.wanted(1, 0), 0);
         dueThrow("wantedAt of none", () -> hall.wantedAt(0, 1));
         job("field a 1 6;sum a 6 1;sum a 6 3 over 7;sum a 1 3;");
@@ -1131,11 +968,11 @@ public final class PromiseTest {
         cards(0, "21", "12", ".3", "14");
         tape(1);
         due("needed", hall.needed(0), 1);
-        promise = 29;
+        goOn(29);
         due("neededSet", hall.neededSet(), 1);
         due("the box stays", hall.column(0, 0, 1), 2);
         due("the tape is empty", hall.count(2), 0);
-        promise = 28;
+        goOn(28);
         tape(2);
         due("in order already", hall.needed(0), 0);
         due("neededSet", hall.neededSet(), 0);
@@ -1202,14 +1039,14 @@ public final class PromiseTest {
         due("one card", hall.unseen(0), 0);
         cards(0, "3", ".", "4", "0", "5");
         due("unseen", hall.unseen(0), 2);
-        promise = 31;
+        goOn(31);
         due("unseenAt(0)", hall.unseenAt(0), 0);
         due("unseenAt(1)", hall.unseenAt(1), 2);
         due("unseenAt(2)", hall.unseenAt(2), -1);
         due("unseenAt(-1)", hall.unseenAt(-1), -1);
         due("a NONE changes nothing", hall.unseen(8), -1);
         due("unseenAt(1)", hall.unseenAt(1), 2);
-        promise = 30;
+        goOn(30);
         board("e-p1;");
         due("a line less", hall.unseen(0), 0);
         board("c1-halt;");
@@ -1240,7 +1077,7 @@ public final class PromiseTest {
         board("c1-p1;");
         lines("2", "4", "6");
         due("moves", hall.moves(0), 1);
-        promise = 33;
+        goOn(33);
         due("wire", hall.move(0, 0), 0);
         due("end", hall.move(0, 1), 0);
         due("hub", hall.move(0, 2), 1);
@@ -1248,7 +1085,7 @@ public final class PromiseTest {
         due("no such", hall.move(0, -1), -1);
         due("no such", hall.move(1, 0), -1);
         due("no such", hall.move(-1, 0), -1);
-        promise = 32;
+        goOn(32);
         lines("..1", "..3", "..5");
         due("the other end", hall.moves(0), 1);
         due("wire", hall.move(0, 0), 0);
@@ -1325,13 +1162,13 @@ public final class PromiseTest {
     private static void shelf() {
         fresh(34);
         board("e-p1;c1-p2;");
-        due("keep(-1)", hall.keep(-1) ? 1 : 0, 0);
-        due("keep(8)", hall.keep(8) ? 1 : 0, 0);
-        due("keep(0)", hall.keep(0) ? 1 : 0, 1);
-        due("keep(7)", hall.keep(7) ? 1 : 0, 1);
+        due("keep(-1)", hall.keep(-1), false);
+        due("keep(8)", hall.keep(8), false);
+        due("keep(0)", hall.keep(0), true);
+        due("keep(7)", hall.keep(7), true);
         board("p2-c1;");
-        due("keep(7) again", hall.keep(7) ? 1 : 0, 1);
-        promise = 35;
+        due("keep(7) again", hall.keep(7), true);
+        goOn(35);
         due("use(0)", hall.use(0), 2);
         due("count(0)", hall.count(0), 2);
         due("use(7)", hall.use(7), 1);
@@ -1346,7 +1183,7 @@ public final class PromiseTest {
         due("what is kept stays", hall.use(0), 2);
         hall.run(0, 1);
         dueLines("15");
-        promise = 36;
+        goOn(36);
         due("apart(0, 0)", hall.apart(0, 0), 0);
         due("apart(0, 7)", hall.apart(0, 7), 1);
         due("apart(7, 0)", hall.apart(7, 0), 1);
@@ -1365,7 +1202,7 @@ public final class PromiseTest {
         board("e-rc1.1;c1-rc1.1;e-p2;");
         hall.keep(5);
         due("HUBS in common", hall.apart(4, 5), 4);
-        promise = 34;
+        goOn(34);
         hall.use(0);
         hall.keep(3);
         job("count 1 1;");
@@ -1375,7 +1212,7 @@ public final class PromiseTest {
 
     private static void keptAt(int place, String text, int wires) {
         due("board " + text, board(text), wires);
-        due("keep(" + place + ")", hall.keep(place) ? 1 : 0, 1);
+        due("keep(" + place + ")", hall.keep(place), true);
     }
 
     private static void dueApart(String what, int a, int b, int want) {
@@ -1488,11 +1325,11 @@ public final class PromiseTest {
         due("two bytes each", hall.friday(), 262);
         tape(0, 1, 2, 1, 5);
         due("a minute late", hall.friday(), -1);
-        promise = 38;
+        goOn(38);
         due("fridayAt(0)", hall.fridayAt(0), 0);
         due("fridayAt(1)", hall.fridayAt(1), -1);
         due("fridayAt(-1)", hall.fridayAt(-1), -1);
-        promise = 37;
+        goOn(37);
         tape(0, 0, 10, 1, 0, 1, 0, 10, 1, 0, 2, 0, 10, 1, 0);
         // the empty board costs nothing first
         due("three", hall.friday(), 34);
