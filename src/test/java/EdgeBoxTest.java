@@ -14,6 +14,8 @@ public final class EdgeBoxTest extends Desk {
         bytesOfACard();
         twentyBytesOfACard();
         fullBox();
+        cardsOfOtherBoxes();
+        cardsBehindAPass();
         fullBoxes();
         tapeIsEmptyThen();
         cardOfNoBox();
@@ -24,10 +26,12 @@ public final class EdgeBoxTest extends Desk {
         boxIsEmptyThen();
         passOfNoBoxOrColumn();
         passPutsBlankAhead();
+        passOfEachOrder();
         passLeavesLikeOnes();
         passOfAFullBox();
         neededOfEightColumns();
         neededColumnsThereAre();
+        neededOfBytesBeyondTheEnd();
         neededOfNoBox();
         neededIsFewest();
         neededIsLeast();
@@ -208,6 +212,33 @@ public final class EdgeBoxTest extends Desk {
         due("the other BOX keeps its own", hall.column(5, 0, 1), 7);
     }
 
+    private static void cardsOfOtherBoxes() {
+        fresh("BOXES hold 40 CARDS at most: those of others are others");
+        card(4, "44444444444444444444");
+        card(2, "22222222222222222222");
+        // The tape's bytes behind the twentieth are of a CARD told before, and of no matter.
+        tape(columns("99999999999999999999999", 40));
+        hall.end(0);
+        for (int k = 0; k < 40; k++) {
+            card(3, "33333333333333333333");
+        }
+        dueColumns(4, 0, "44444444444444444444");
+        dueColumns(2, 0, "22222222222222222222");
+        dueColumns(3, 39, "33333333333333333333");
+        dueColumns(3, 0, "33333333333333333333");
+    }
+
+    private static void cardsBehindAPass() {
+        fresh("empty(), card(): new CARDS in a BOX whose CARDS a PASS has put in order");
+        cards(0, "3", "1", "2", "0");
+        due("pass", hall.pass(0, 1), true);
+        cards(0, "51234567890123456789", "61234567890123456789", "71234567890123456789", "81234567890123456789");
+        dueColumns(0, 0, "51234567890123456789");
+        dueColumns(0, 1, "61234567890123456789");
+        dueColumns(0, 2, "71234567890123456789");
+        dueColumns(0, 3, "81234567890123456789");
+    }
+
     /** Ten CARDS fill a BOX, each PUNCHED in its CARD CYCLE and in its three TOTAL CYCLES. */
     private static void fullBoxes() {
         fresh("BOXES 0 .. 7 hold 40 CARDS at most: all of them at once");
@@ -363,6 +394,20 @@ public final class EdgeBoxTest extends Desk {
         }
     }
 
+    private static void passOfEachOrder() {
+        fresh("A PASS ..: CARDS in order by it, however they were");
+        String[][] orders = {{"0", "1", "2"}, {"0", "2", "1"}, {"1", "0", "2"}, {"1", "2", "0"}, {"2", "0", "1"},
+            {"2", "1", "0"}, {".", "1", "0"}, {"1", ".", "0"}, {"0", "9", "."}};
+        for (String[] order : orders) {
+            cards(0, order);
+            due("pass", hall.pass(0, 1), true);
+            String last = order[0].equals(".") || order[1].equals(".") ? ".01" : order[2].equals(".") ? ".09" : "012";
+            for (int k = 0; k < 3; k++) {
+                due("column(0, " + k + ", 1)", hall.column(0, k, 1), columns(last, 3)[k]);
+            }
+        }
+    }
+
     private static void passLeavesLikeOnes() {
         fresh("A PASS ..: of like ones as they were");
         cards(0, "J1", "92", "_3", ".4", "05", "A6", "_7");
@@ -428,6 +473,17 @@ public final class EdgeBoxTest extends Desk {
             tape(1, b);
             due("COLUMNS 1 and " + b, hall.needed(0), b >= 1 && b <= 20 ? 0 : -1);
         }
+    }
+
+    private static void neededOfBytesBeyondTheEnd() {
+        fresh("needed(): The tape has its first n bytes alone");
+        cards(0, "21", "12");
+        tape(2, 1, 99);
+        hall.end(1);
+        due("by COLUMN 2", hall.needed(0), 0);
+        tape(1, 99);
+        hall.end(1);
+        due("by COLUMN 1", hall.needed(0), 1);
     }
 
     private static void neededOfNoBox() {

@@ -11,12 +11,15 @@ public final class EdgeJobTest extends Desk {
         sixtyWires();
         fewestRunsAndTheFirst();
         runsOfNoWants();
+        greatestWant();
         runsThereAre();
         makeThereIs();
         madeBreaks();
         madeSums();
         madeRelays();
         madeOverRelays();
+        madeForThisJob();
+        madeInThisOrder();
         ordersBehindCards();
         orderOfBlank();
         orderBehindTheLast();
@@ -119,6 +122,8 @@ public final class EdgeJobTest extends Desk {
         dueRuns("count 1 1;count 6 1;count 6 1;count 6 1;", 3, 12);
         dueRuns("count 6 1;count 1 1;count 6 1;count 6 1;", 3, 12);
         dueRuns("count 6 1;count 4 1;count 6 1;count 5 1;count 3 1;", 5, 26);
+        // Relays let 0 go with 3 alone, and 1 with 2.
+        dueRuns("field a 1 1;sum a 4 1 over 1;sum a 4 2 over 2;sum a 2 2 over 2;sum a 2 1 over 1;", 9, 6);
         fresh("then that of the least WANT left, and so on");
         dueRuns("count 6 1;count 6 1;count 6 1;count 6 1;count 1 1;", 1, 6, 24);
         dueRuns(times("count 6 1;", 8), 3, 12, 48, 192);
@@ -137,6 +142,23 @@ public final class EdgeJobTest extends Desk {
         dueRuns("field a 1 1;break 1 1;");
         dueRuns("count 1 1;", 1);
         dueRuns("field a 1 1;");
+    }
+
+    private static void greatestWant() {
+        fresh("runs(): NONE: some WANT fits none: the greatest there may be fits");
+        String breaks = "field a 1 6;break 1 1;break 2 2;break 3 3;";
+        dueRuns(breaks + "sum a 6 3 over 20;", 1);
+        due("make(0)", hall.make(0), 34);
+        // Two of them want five relays: each has a RUN of its own.
+        dueRuns(breaks + times("sum a 6 3 over 20;", 8), 1, 2, 4, 8, 16, 32, 64, 128);
+        for (int r = 0; r < 8; r++) {
+            due("make(" + r + ")", hall.make(r), 34);
+        }
+        due("make(8)", hall.make(8), -1);
+        cards(0, "123456");
+        due("wanted(0, 7)", hall.wanted(0, 7), 1);
+        dueWanted(0, "123456");
+        due("same(0, 7)", hall.same(0, 7), 1);
     }
 
     private static void runsThereAre() {
@@ -222,6 +244,83 @@ public final class EdgeJobTest extends Desk {
             + "c1-i3.1;e-rc1.3;rn1.3-plus3;rt1.3-minus3;c1-i4.1;x9-s2;e-rc2.1;rn2.1-plus4;rt2.1-minus4;"
             + "t1-s3;o1.1-rc3.1;rt3.1-p1;t1-clear1;o2.1-rc3.2;rt3.2-p2;t1-clear2;o3.1-rc3.3;rt3.3-p3;t1-clear3;"
             + "t1-s4;o4.1-rc4.1;rt4.1-p4;t1-clear4;");
+    }
+
+    private static void madeForThisJob() {
+        fresh("job(): The tape is the JOB now: nothing of those ahead");
+        String over = "field a 1 6;break 4 2;sum a 6 3 over 7;";
+        due("job", job(over), 1);
+        due("job", job(over), 1);
+        dueMade("count 1 1;", 0, "e-i1.1;e-plus1;t1-s1;o1.1-rc1.1;rt1.1-p1;t1-clear1;");
+        due("job", job(over), 1);
+        dueMade("field a 2 2;sum a 1 1;", 0, "c2-i1.1;e-plus1;t1-s1;o1.1-rc1.1;rt1.1-p1;t1-clear1;");
+        due("a FAULT", job("field b 5 5;break 6 1;sum b 1 1 over 8;-"), -40);
+        due("make", hall.make(0), 6);
+        hall.keep(0);
+        due("apart", hall.apart(0, 1), 0);
+    }
+
+    private static void madeInThisOrder() {
+        String sentence = "MADE for a RUN ..; WIRES in this order";
+        dueOrder(sentence, "field a 2 3;field b 5 5;break 9 3;break 1 1;sum a 3 1 over 4;count 2 3;sum b 1 1 over 4;",
+            "c1-ka1;a1-kb1;u1-b1;c9-ka2;a9-kb2;u2-b3;"
+            + "c3-i1.1;c2-i1.2;x4-s1;e-rc1.1;rn1.1-plus1;rt1.1-minus1;e-i2.1;e-plus2;"
+            + "c5-i3.1;e-rc1.2;rn1.2-plus3;rt1.2-minus3;"
+            + "t1-s2;o1.3-rc2.1;rt2.1-p1;o1.2-rc2.2;rt2.2-p2;o1.1-rc2.3;rt2.3-p3;t1-clear1;"
+            + "t3-s3;o2.2-rc3.1;rt3.1-p4;o2.1-rc3.2;rt3.2-p5;t3-clear2;t1-s4;o3.1-rc4.1;rt4.1-p6;t1-clear3;",
+            "123.7...8", "145A9...8", "267.3...9");
+        dueOrder(sentence, "field a 1 4;break 5 2;sum a 4 2;count 1 2;count 1 1;",
+            "c5-ka1;a5-kb1;u1-b2;c4-i1.1;c3-i1.2;c2-i1.3;c1-i1.4;e-plus1;e-i2.1;e-plus2;e-i3.1;e-plus3;"
+            + "t2-s1;o1.4-rc1.1;rt1.1-p1;o1.3-rc1.2;rt1.2-p2;o1.2-rc1.3;rt1.3-p3;t2-s2;o1.1-rc2.1;rt2.1-p4;t2-clear1;"
+            + "o2.1-rc2.2;rt2.2-p5;t2-clear2;t1-s3;o3.1-rc3.1;rt3.1-p6;t1-clear3;",
+            "12341", "56781", "24682");
+    }
+
+    /**
+     * WIRES in one order have one number each: for the LINES that the BOARD prints without one of its WIRES, the same
+     * WIRES are MISSING, and the same MOVES would do, on the BOARD MADE and on the one that is told.
+     */
+    private static void dueOrder(String sentence, String job, String told, String... cards) {
+        String[] wires = told.split("(?<=;)");
+        for (int j = 0; j < wires.length; j++) {
+            fresh(sentence);
+            cards(0, cards);
+            job(job);
+            hall.make(0);
+            hall.keep(0);
+            board(told);
+            hall.keep(1);
+            StringBuilder less = new StringBuilder();
+            for (int i = 0; i < wires.length; i++) {
+                less.append(i == j ? "" : wires[i]);
+            }
+            due("board without WIRE " + j, board(less.toString()), wires.length - 1);
+            hall.run(0, 7);
+            int[] lines = new int[12 * hall.ran(2)];
+            for (int i = 0; i < lines.length; i++) {
+                lines[i] = hall.bar(i / 12, i % 12 + 1);
+            }
+            hall.use(1);
+            String want = missingBy(lines);
+            hall.use(0);
+            dueText("without WIRE " + j + " of " + told, missingBy(lines), want);
+            due("WIRE " + j + " is one of them", want.contains(" " + j + " "), true);
+        }
+    }
+
+    private static String missingBy(int[] lines) {
+        tape(lines);
+        int all = hall.missing(0);
+        StringBuilder b = new StringBuilder(" ");
+        for (int k = 0; k < all; k++) {
+            b.append(hall.wire(k)).append(' ');
+        }
+        tape(lines);
+        b.append("| ").append(hall.moves(0)).append(": ");
+        for (int k = 0; k < 20; k++) {
+            b.append(hall.move(k, 0)).append(',').append(hall.move(k, 1)).append(',').append(hall.move(k, 2)).append("; ");
+        }
+        return b.toString();
     }
 
     private static void dueWantedLines(int r, String... want) {

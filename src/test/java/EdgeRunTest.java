@@ -16,6 +16,10 @@ public final class EdgeRunTest extends Desk {
         belowZeroGives();
         othersGiveNothing();
         pointsOfRelays();
+        allRelaysPicked();
+        hubsThatAreNoPoints();
+        netsJoinedInAnyOrder();
+        sixtyNets();
         relaysArePickedFirst();
         relaysArePickedWhereTwoGive();
         comparersTakeTheFirst();
@@ -25,10 +29,12 @@ public final class EdgeRunTest extends Desk {
         plusAndMinus();
         wheelsRunOver();
         wheelsRunOverBelow();
+        wheelsBesideOneAnother();
         clearIsBehindSums();
         cardsArePunched();
         haltEndsBehindTotals();
         greatestOrder();
+        cyclesOfAFullBox();
         totalsBehindTheLast();
         totalsTakeNoOrders();
         endOfNoCards();
@@ -237,6 +243,77 @@ public final class EdgeRunTest extends Desk {
         dueLines(".1", ".2");
     }
 
+    private static void allRelaysPicked() {
+        fresh("relays are PICKED: none, each alone, all four at once");
+        cards(0, "1", "1A", "1.A", "1..A", "1...A", "1AAAA", "1AA", "1..AA");
+        dueRun("x2-s1;x3-s2;x4-s3;x5-s4;c1-rc1.1;rt1.1-p1;c1-rc2.1;rt2.1-p2;c1-rc3.1;rt3.1-p3;rc4.1-c1;rt4.1-p12;", 0);
+        dueLines("1", ".1", "..1", "...........1", "111........1", "11", "..1........1");
+        // One behind another, the last point of each.
+        dueRun("x2-s1;x3-s2;x4-s3;x5-s4;c1-rc1.3;rt1.3-rc2.3;rt2.3-rc3.3;rt3.3-rc4.3;rt4.3-p1;rn4.3-p2;", 0);
+        dueLines("1");
+        dueRun("x2-s1;x3-s2;x4-s3;x5-s4;c1-rc1.3;rn1.3-rc2.3;rn2.3-rc3.3;rn3.3-rc4.3;rn4.3-p1;rt4.3-p2;", 0);
+        dueLines("1", ".1");
+    }
+
+    private static void hubsThatAreNoPoints() {
+        fresh("A NET: HUBS joined by WIRES, and by relays: by nothing else");
+        cards(0, "1", "2");
+        dueRun("c1-rc4.3;halt-p12;", 0);
+        dueLines();
+        dueRun("c1-rn4.3;halt-p12;", 0);
+        dueLines();
+        dueRun("c1-rt4.3;rn1.1-p1;rc1.1-p2;rn4.2-p3;rc4.2-p4;", 0);
+        dueLines();
+        dueRun("e-s1;c1-p12;e-rc1.1;rt1.1-p1;", 0);
+        dueLines("1..........1", "1..........2");
+    }
+
+    private static void netsJoinedInAnyOrder() {
+        fresh("A NET: HUBS joined by WIRES, in whatever order they are told");
+        cards(0, "1", "3");
+        dueRun("c1-rc1.1;rc2.1-p1;rc3.1-p2;rc4.1-p3;rc4.1-rc3.1;rc2.1-rc3.1;rc1.1-rc4.1;", 0);
+        dueLines("111", "333");
+        dueRun("rc4.1-p3;rc3.1-p2;rc2.1-p1;c1-rc1.1;rc1.1-rc2.1;rc3.1-rc4.1;rc2.1-rc3.1;", 0);
+        dueLines("111", "333");
+        dueRun("rc1.1-p1;rc2.1-p2;rc3.1-p3;c1-rc4.1;rc3.1-rc4.1;rc2.1-rc3.1;rc1.1-rc2.1;", 0);
+        dueLines("111", "333");
+        dueRun("rc1.1-p1;rc2.1-p2;rc3.1-p3;c1-rc4.1;rc1.1-rc2.1;rc3.1-rc4.1;rc2.1-rc4.1;rc1.1-rc3.1;", 0);
+        dueLines("111", "333");
+        fresh("A NET: .. and by relays, one behind another");
+        cards(0, "1A", "3");
+        dueRun("rc1.1-p1;rn2.1-rt1.1;x2-s1;rc2.1-rt3.1;c1-rc3.1;e-s3;", 0);
+        dueLines("1");
+        dueRun("c1-rc4.1;rn4.1-rc3.1;rn3.1-rc2.1;rn2.1-rc1.1;rn1.1-p1;rc2.1-p2;", 0);
+        dueLines("11", "33");
+        dueRun("rn1.1-p1;rc1.1-rn2.1;rc2.1-rn3.1;rc3.1-rn4.1;c1-rc4.1;rn2.1-p2;", 0);
+        dueLines("11", "33");
+    }
+
+    private static void sixtyNets() {
+        fresh("A NET: sixty WIRES, sixty NETS");
+        StringBuilder b = new StringBuilder();
+        for (int n = 1; n <= 20; n++) {
+            b.append("c").append(n).append("-q").append(n).append(';');
+        }
+        for (int n = 1; n <= 12; n++) {
+            b.append("a").append(n).append("-p").append(n).append(';');
+        }
+        for (int d = 1; d <= 6; d++) {
+            b.append("x").append(d).append("-i1.").append(d).append(';');
+            b.append("x").append(d + 6).append("-i2.").append(d).append(';');
+            b.append("o1.").append(d).append("-i3.").append(d).append(';');
+            b.append("o2.").append(d).append("-i4.").append(d).append(';');
+        }
+        b.append("e-m;t1-plus3;t2-plus4;x20-halt;");
+        cards(0, "ABCDEFGHIJ1234567890", "0123456789012");
+        dueRun(b.toString(), 0);
+        due("WIRES", hall.count(0), 60);
+        dueLines("012345678901");
+        dueColumns(7, 0, "01234567891234567890");
+        dueColumns(7, 1, "0123456789012");
+        dueWheels(0, 0, 0, 0);
+    }
+
     private static void relaysArePickedFirst() {
         fresh("first, with no relay PICKED and u giving nothing, relays are PICKED whose s TAKES something");
         cards(0, "1A", "2");
@@ -402,6 +479,33 @@ public final class EdgeRunTest extends Desk {
         due("ran(4)", hall.ran(4), 0);
     }
 
+    private static void wheelsBesideOneAnother() {
+        fresh("the number of the digits that its i's TAKE is added: six digits of its own");
+        cards(0, "999999");
+        StringBuilder b = new StringBuilder();
+        for (int w = 1; w <= 4; w++) {
+            for (int d = 1; d <= 6; d++) {
+                b.append("c").append(d).append("-i").append(w).append('.').append(d).append(';');
+            }
+            b.append(w % 2 == 0 ? "e-minus" : "e-plus").append(w).append(';');
+        }
+        dueRun(b.toString(), 0);
+        dueWheels(999999, -999999, 999999, -999999);
+        due("none RAN OVER", hall.ran(4), 0);
+        cards(0, "9", "9");
+        dueRun(b.toString(), 0);
+        dueWheels(18, -18, 18, -18);
+        due("none RAN OVER", hall.ran(4), 0);
+        cards(0, "99999C", "99999C", "99999C");
+        dueRun(b.toString(), 0);
+        dueWheels(899997, -899997, 899997, -899997);
+        due("none RAN OVER", hall.ran(4), 0);
+        cards(0, ".....9", ".....2");
+        dueRun(b.toString(), 0);
+        dueWheels(100000, -100000, 100000, -100000);
+        due("each RAN OVER", hall.ran(4), 4);
+    }
+
     private static void clearIsBehindSums() {
         fresh("clear: its WHEEL is 0 then (behind all sums)");
         cards(0, "9", "9A");
@@ -410,6 +514,7 @@ public final class EdgeRunTest extends Desk {
         due("both RAN OVER", hall.ran(4), 2);
         dueRun("c1-i4.6;e-minus4;x2-clear4;x2-clear3;", 0);
         dueWheels(0, 0, 0, 0);
+        dueLines();
         // A digit 0 at clear is something.
         cards(0, "0");
         dueRun("e-i1.1;e-plus1;c1-clear1;", 0);
@@ -453,6 +558,17 @@ public final class EdgeRunTest extends Desk {
         cards(0, "0", ".");
         dueRun("c1-b2;", 0);
         dueCycles(2, 5);
+    }
+
+    private static void cyclesOfAFullBox() {
+        fresh("one CARD CYCLE each; TOTAL CYCLES: as many as there may be");
+        for (int k = 0; k < 40; k++) {
+            card(0, "9");
+        }
+        dueRun("e-b3;e-plus1;c1-i1.6;t1-plus2;t1-i2.1;t2-plus3;t2-i3.1;t3-plus4;t3-i4.1;", 0);
+        dueCycles(40, 120);
+        dueWheels(0, 40, 40, 40);
+        due("ran(4)", hall.ran(4), 36);
     }
 
     private static void totalsBehindTheLast() {

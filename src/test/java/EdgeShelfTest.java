@@ -22,6 +22,9 @@ public final class EdgeShelfTest extends Desk {
         fridayCosts();
         fridayEndsFirst();
         fridayOfLikeOnesTheFirst();
+        fridayOfLikeOnesOfSix();
+        fridayEachOrder();
+        fridayOfBytesBeyondTheEnd();
         fridayNoneDoes();
         fridayLatestMinutes();
         fridayAtThereIs();
@@ -161,6 +164,9 @@ public final class EdgeShelfTest extends Desk {
         kept(1, "rc1.1-c1;");
         due("twice and once", hall.apart(0, 1), 1);
         due("once and twice", hall.apart(1, 0), 1);
+        kept(1, "rc1.1-c1;e-m;c1-rc1.1;");
+        due("twice and twice", hall.apart(0, 1), 1);
+        due("twice and twice", hall.apart(1, 0), 1);
     }
 
     private static void apartOfSixtyWires() {
@@ -350,6 +356,79 @@ public final class EdgeShelfTest extends Desk {
         dueFriday(15, 1, 0, 2);
         tape(0, 0, 5, 1, 0, 0, 0, 5, 1, 0, 0, 0, 5, 0, 10);
         dueFriday(15, 0, 2, 1);
+    }
+
+    private static void fridayOfLikeOnesOfSix() {
+        fresh("FRIDAY: .. of like ones the first: one of six has to be first");
+        kept(0, "");
+        for (int first = 0; first < 6; first++) {
+            int[] b = told(6);
+            b[5 * first + 3] = 0;
+            b[5 * first + 4] = 1;
+            tape(b);
+            due("friday", hall.friday(), 6);
+            for (int k = 0; k < 6; k++) {
+                due("fridayAt(" + k + ")", hall.fridayAt(k), k == 0 ? first : k <= first ? k - 1 : k);
+            }
+        }
+        fresh("FRIDAY: .. of like ones the first: one of six has to be third at the latest");
+        kept(0, "");
+        for (int third = 3; third < 6; third++) {
+            int[] b = told(6);
+            b[5 * third + 3] = 0;
+            b[5 * third + 4] = 3;
+            tape(b);
+            due("friday", hall.friday(), 6);
+            for (int k = 0; k < 6; k++) {
+                due("fridayAt(" + k + ")", hall.fridayAt(k), k < 2 ? k : k == 2 ? third : k <= third ? k - 1 : k);
+            }
+        }
+    }
+
+    /** By the minutes told there is one order alone, each of the 720 in turn. */
+    private static void fridayEachOrder() {
+        int[] order = {0, 1, 2, 3, 4, 5};
+        tryOrders(order, 0, new int[1]);
+    }
+
+    private static void tryOrders(int[] order, int from, int[] tried) {
+        if (from == order.length) {
+            if (tried[0] % 40 == 0) {
+                fresh("FRIDAY: some of the SHELF in some order: each order of six");
+                kept(0, "");
+            }
+            tried[0]++;
+            int[] b = told(6);
+            for (int k = 0; k < 6; k++) {
+                b[5 * order[k] + 3] = 0;
+                b[5 * order[k] + 4] = k + 1;
+            }
+            tape(b);
+            dueFriday(6, order);
+            return;
+        }
+        for (int i = from; i < order.length; i++) {
+            swap(order, from, i);
+            tryOrders(order, from + 1, tried);
+            swap(order, from, i);
+        }
+    }
+
+    private static void swap(int[] order, int i, int j) {
+        int was = order[i];
+        order[i] = order[j];
+        order[j] = was;
+    }
+
+    private static void fridayOfBytesBeyondTheEnd() {
+        fresh("friday(): The tape has its first n bytes alone");
+        kept(0, "");
+        tape(0, 0, 3, 1, 0, 9, 0, 0, 0, 0);
+        hall.end(5);
+        dueFriday(3, 0);
+        tape(0, 0, 3, 1, 0, 0, 0, 4, 1, 0, 9, 9, 9, 9, 9);
+        hall.end(10);
+        dueFriday(7, 0, 1);
     }
 
     private static void fridayNoneDoes() {

@@ -15,6 +15,7 @@ public final class EdgeTextTest extends Desk {
         everyByteBehindANumber();
         wordsOfFive();
         numbersOfTwo();
+        bytesBeyondTheEnd();
         tokensThatCannotCome();
         numbersBehindGivers();
         numbersBehindTakers();
@@ -145,6 +146,32 @@ public final class EdgeTextTest extends Desk {
         fault("o1.001-e;", 1, 3);
         fault("c0 1-e;", 2, 1);
         fault("c1 0-e;", 1, 3);
+    }
+
+    private static void bytesBeyondTheEnd() {
+        fresh("end(): The tape has its first n bytes alone: what was behind them is no part of a TOKEN");
+        dueCut("c99-e;", 2, 1, 2);
+        dueCut("c100-e;", 2, 1, 2);
+        dueCut("e-p1;e-p2;", 5, 0, 0);
+        dueCut("e-p1;foo", 5, 0, 0);
+        dueCut("e-mount;", 3, 1, 3);
+        dueCut("e-minus1;", 5, 1, 2);
+        dueCut("e-p1;", 4, 1, 4);
+        fault("c" + times("1", 739), 1, 1);
+        fault("c1-p" + times("1", 736), 1, 4);
+        text("count 1 1;count");
+        hall.end(10);
+        due("job", hall.job(), 1);
+        text("count 1 19;");
+        hall.end(9);
+        due("job", hall.job(), -10);
+    }
+
+    private static void dueCut(String s, int n, int kind, int place) {
+        text(s);
+        hall.end(n);
+        due(s + " cut behind " + n, hall.board(), kind == 0 ? 1 : -1 - place);
+        due("fault of " + s, hall.fault(), kind);
     }
 
     private static void tokensThatCannotCome() {

@@ -18,6 +18,7 @@ public final class EdgeWireTest extends Desk {
         missingLinesOfTwelve();
         missingBytesOfLines();
         missingOfManyLines();
+        missingOfBytesBeyondTheEnd();
         missingOfNoBox();
         wireThereIs();
         wireOfTheLatest();
@@ -37,7 +38,9 @@ public final class EdgeWireTest extends Desk {
         moveIsNotToItsOtherEnd();
         moveIsToAHubThatMayHaveMore();
         moveIsOfTheSameWord();
+        moveToEachHubOfAWord();
         movesOfThreeCards();
+        movesWhateverTheEnd();
         movesInOrder();
         movesOfLinesAsInMissing();
         movesOfNoBox();
@@ -259,6 +262,23 @@ public final class EdgeWireTest extends Desk {
         lines(copies("1", 31));
         due("31 LINES", hall.missing(0), 2);
         dueWires(0, 1);
+    }
+
+    private static void missingOfBytesBeyondTheEnd() {
+        fresh("missing(), moves(): The tape has its first n bytes alone");
+        cards(0, "12");
+        dueBoard("c1-p1;c2-p2;", 2);
+        int[] told = columns("1...........", 36);
+        told[13] = 99;
+        tape(told);
+        hall.end(12);
+        due("missing", hall.missing(0), 1);
+        dueWires(1);
+        told[0] = 2;
+        told[1] = 2;
+        tape(told);
+        hall.end(12);
+        due("moves", hall.moves(0), 1);
     }
 
     private static void missingOfNoBox() {
@@ -603,6 +623,33 @@ public final class EdgeWireTest extends Desk {
         due("the last", hall.move(22, 2), 22);
     }
 
+    private static void moveToEachHubOfAWord() {
+        String sentence = "A MOVE: .. at another HUB of the same word: as many as the word has";
+        String[] words = {"c", "a", "x", "u", "t", "z", "plus", "minus", "clear", "p", "s", "ka", "kb", "b", "q"};
+        int[] hubs = {20, 20, 20, 4, 3, 4, 4, 4, 4, 12, 4, 4, 4, 3, 20};
+        fresh(sentence);
+        for (int i = 0; i < words.length; i++) {
+            dueOthers("e-" + words[i] + "1;", 1, hubs[i]);
+            dueOthers(words[i] + hubs[i] + "-m;", 0, hubs[i]);
+        }
+        fresh(sentence);
+        String[] dotted = {"o", "i", "rc", "rn", "rt"};
+        int[] points = {24, 24, 12, 12, 12};
+        for (int i = 0; i < dotted.length; i++) {
+            dueOthers("e-" + dotted[i] + "1.1;", 1, points[i]);
+            dueOthers(dotted[i] + "4." + points[i] / 4 + "-m;", 0, points[i]);
+        }
+    }
+
+    /** MOVES of the only WIRE of a BOARD, for a BOX without CARDS: each of them would do. */
+    private static void dueOthers(String text, int end, int hubs) {
+        dueBoard(text, 1);
+        due("moves of " + text, hall.moves(1), hubs - 1);
+        due("the first HUB of " + text, hall.move(0, 2), end);
+        due("the last HUB of " + text, hall.move(hubs - 2, 2), hubs - 2 + end);
+        due("the end of " + text, hall.move(0, 1), end);
+    }
+
     private static void movesOfThreeCards() {
         fresh("MOVES that would do: with which the RUN of a BOX's first 3 CARDS prints just told LINES");
         dueBoard("c1-p1;", 1);
@@ -629,6 +676,23 @@ public final class EdgeWireTest extends Desk {
         lines("1");
         dueMoves();
         due("no CARDS, no LINES", hall.moves(0), 2 + 11);
+    }
+
+    private static void movesWhateverTheEnd() {
+        fresh("MOVES that would do: with which the RUN .. prints just told LINES: whatever its END");
+        cards(0, "12", "13", "14");
+        dueBoard("c1-p1;t3-o1.1;", 2);
+        lines("2", "3", "4");
+        dueMoves(0, 0, 1);
+        due("a JAM", hall.run(0, 7), 2);
+        dueBoard("c1-p1;c1-s1;e-rc1.1;rt1.1-halt;", 4);
+        lines("2");
+        dueMoves(0, 0, 1);
+        due("a halt", hall.run(0, 7), 1);
+        dueBoard("c1-p1;e-rc1.1;t1-rc1.1;rc1.1-m;", 4);
+        lines("2", "3", "4");
+        dueMoves(0, 0, 1);
+        due("all CARDS", hall.run(0, 7), 0);
     }
 
     private static void movesInOrder() {

@@ -14,7 +14,8 @@ import java.util.TreeSet;
 
 /** Random runs of calls, each answer held against a slow model that is written from the document alone. */
 public final class ModelTest {
-    private static final int ROUNDS = 400;
+    private static final int ROUNDS = 300;
+    private static final int MOST_CALLS = 512;
     private static final int THROWS = Integer.MIN_VALUE;
     private static int wrong = 0;
 
@@ -1167,6 +1168,7 @@ public final class ModelTest {
         final Map<String, Map<Integer, Integer>> seen;
         final boolean big;
         final StringBuilder log = new StringBuilder();
+        int calls;
 
         Round(int seed, Map<String, Map<Integer, Integer>> seen) {
             this.seed = seed;
@@ -1175,7 +1177,12 @@ public final class ModelTest {
             this.big = seed % 5 == 0;
         }
 
+        /** Each call of the hall is held against the model here; what an object answers behind its 512th is free. */
         void due(String call, int got, int want) {
+            calls++;
+            if (calls > MOST_CALLS) {
+                return;
+            }
             String name = call.replaceAll("\\(.*", "");
             seen.computeIfAbsent(name, k -> new TreeMap<>()).merge(want, 1, Integer::sum);
             log.append(call).append(" -> ").append(want).append('\n');
@@ -1287,6 +1294,78 @@ public final class ModelTest {
             return wires;
         }
 
+        void add(List<String[]> wires, String a, String b) {
+            boolean fits = Model.uses(wires, a) < mostWires(a) && Model.uses(wires, b) < mostWires(b);
+            if (wires.size() < 60 && !a.equals(b) && fits) {
+                wires.add(oneIn(6) ? new String[] {b, a} : new String[] {a, b});
+            }
+        }
+
+        String column() {
+            return "" + (1 + below(oneIn(4) ? 20 : 6));
+        }
+
+        /** A machine that works: breaks, sums with a sign, totals by relays, LINES and CARDS, and a few WIRES at random. */
+        List<String[]> workingWires() {
+            List<String[]> wires = new ArrayList<>();
+            for (int o = 1; o <= 3; o++) {
+                if (oneIn(2)) {
+                    String n = column();
+                    add(wires, "c" + n, "ka" + o);
+                    add(wires, "a" + n, "kb" + o);
+                    add(wires, "u" + o, "b" + (1 + below(3)));
+                }
+            }
+            int relay = 1;
+            int bar = 1;
+            for (int v = 1 + below(4); v >= 1; v--) {
+                for (int d = oneIn(2) ? 1 : 6; d >= 1 && d <= 6 && !oneIn(5); d += oneIn(2) ? 1 : -1) {
+                    add(wires, "c" + column(), "i" + v + "." + d);
+                }
+                if (relay <= 4 && oneIn(2)) {
+                    add(wires, "x" + column(), "s" + relay);
+                    add(wires, "e", "rc" + relay + ".1");
+                    add(wires, "rn" + relay + ".1", "plus" + v);
+                    add(wires, "rt" + relay + ".1", "minus" + v);
+                    relay++;
+                } else {
+                    add(wires, "e", (oneIn(3) ? "minus" : "plus") + v);
+                }
+                if (relay <= 4 && !oneIn(4)) {
+                    String total = "t" + (1 + below(3));
+                    add(wires, total, "s" + relay);
+                    for (int k = 1; k <= 3; k++) {
+                        String giver = oneIn(6) ? "z" + v : "o" + v + "." + (1 + below(6));
+                        add(wires, giver, "rc" + relay + "." + k);
+                        add(wires, "rt" + relay + "." + k, oneIn(4) ? "q" + column() : "p" + Math.min(12, bar++));
+                    }
+                    if (!oneIn(3)) {
+                        add(wires, total, "clear" + v);
+                    }
+                    relay++;
+                }
+            }
+            for (int i = below(5); i > 0; i--) {
+                add(wires, (oneIn(4) ? "a" : "c") + column(), "p" + Math.min(12, bar++));
+            }
+            if (oneIn(2)) {
+                add(wires, oneIn(2) ? "e" : oneIn(2) ? "t" + (1 + below(3)) : "x" + column(), "m");
+                for (int i = below(4); i > 0; i--) {
+                    add(wires, "c" + column(), "q" + column());
+                }
+            }
+            if (oneIn(4)) {
+                add(wires, "x" + (10 + below(11)), "halt");
+            }
+            for (int i = below(4); i > 0; i--) {
+                add(wires, someHub(), someHub());
+            }
+            if (oneIn(3)) {
+                Collections.shuffle(wires, random);
+            }
+            return wires;
+        }
+
         /** The WIRES of a BOARD kept, some told again or not at all, some the other way round. */
         List<String[]> kinWires() {
             List<String[]> kin = new ArrayList<>();
@@ -1339,7 +1418,7 @@ public final class ModelTest {
 
         void board() {
             StringBuilder b = new StringBuilder();
-            for (String[] w : oneIn(4) ? kinWires() : someWires()) {
+            for (String[] w : oneIn(4) ? kinWires() : oneIn(3) ? someWires() : workingWires()) {
                 b.append(w[0]).append('-').append(w[1]).append(';');
             }
             String text = spread(b.toString());
@@ -1672,7 +1751,7 @@ public final class ModelTest {
         void play() {
             cards();
             board();
-            for (int step = 0; step < 30 && wrong == 0; step++) {
+            while (calls < MOST_CALLS && wrong == 0) {
                 int way = below(24);
                 if (way < 4) {
                     board();

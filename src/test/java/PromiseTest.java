@@ -265,6 +265,7 @@ public final class PromiseTest extends Desk {
         fault(wires(60) + "toolong", 1, end);
         fault(wires(60) + "q1-e", 4, end);
         fault("e-q1;" + wires(59) + "q1-e;", 4, 5 + wires(59).length());
+        fresh(9);
         due("700 bytes", board(times(" ", 695) + "c1-e;"), 1);
         due("700 blanks", board(times(" ", 700)), 0);
         fault(times(" ", 701), 1, 700);
@@ -275,6 +276,7 @@ public final class PromiseTest extends Desk {
         fault(times(" ", 699) + "c1-e;", 1, 700);
         fault(times(" ", 698) + "c21-e;", 2, 699);
         fault(times(" ", 698) + "c100-e;", 1, 699);
+        fresh(9);
         fault(times(" ", 697) + "minus1-e;", 1, 700);
         fault(times(" ", 697) + "minusx-e;", 1, 697);
         fault(times(" ", 699) + "foo-e;", 1, 699);
@@ -357,6 +359,7 @@ public final class PromiseTest extends Desk {
         dueLines("111", "333");
         due("nets that relays join", runOf("rc1.1-p1;rn2.1-rt1.1;x3-s1;rc2.1-rt3.1;c1-rc3.1;c2-s3;"), 0);
         dueLines("1");
+        fresh(10);
         cards(0, "11", "12", "1", ".1", "..");
         due("a comparer", runOf("c1-ka1;c2-kb1;u1-p1;"), 0);
         dueLines("1", "1", "1");
